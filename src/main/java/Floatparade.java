@@ -567,7 +567,9 @@ public final class Floatparade {
             if (league != null && league.line.goesOn()) {
                 return false;
             }
-            hasEnded |= league != null && league.line.isEnded;
+            if (league != null && league.line.isEnded) {
+                hasEnded = true;
+            }
         }
         return hasEnded;
     }

@@ -28,6 +28,7 @@ public final class MarchTest {
         clockWrong();
         penaltiesOfTheMarch();
         newYear();
+        heldNoMoreInANewYear();
         Check.finish("MarchTest");
     }
 
@@ -298,6 +299,8 @@ public final class MarchTest {
         enters(x, 1);
         x.begin(0, 1, 200);
         minute(x, 1, 0);
+        Check.is("its front is on the cell 0", 1, x.clock(0, 0));
+        Check.is("its only cell is", 1, x.ambulance(0));
         minute(x, 2, 0);
         minute(x, 3, 3);
         minute(x, 4, 6);
@@ -490,12 +493,25 @@ public final class MarchTest {
         x.begin(0, 1, 200);
         x.march(0, 4);
         minute(x, 5, 6, 0);
-        x.stop(0, 1, 10);
+        x.stop(0, 1, 3);
         minute(x, 6, 8, 0);
         minute(x, 7, 10, 0);
         Check.is("6 cells are free", 0, x.clock(0, 2));
         minute(x, 8, 12, 0);
         Check.is("8 cells are free", 1, x.clock(0, 2));
+        x.stop(0, 0, 1);
+        minute(x, 9, 12, 3);
+        x.march(0, 60);
+        Check.is("no more gaps", 1, x.clock(0, 2));
+        Check.is("one costs a penalty", 1, x.about(0, 8));
+        Check.is("of paragraph 3", 3, x.penaltyAt(0, 0, 0));
+        Check.is("of 1", 1, x.penaltyAt(0, 0, 1));
+        x.endYear();
+        Check.is("gaps are gone", 0, x.clock(0, 2));
+        x.enter(0, 0);
+        x.begin(0, 1, 200);
+        x.march(0, 60);
+        Check.is("no penalty for old gaps", 0, x.about(0, 8));
     }
 
     private static void gapsOfLaterParts() {
@@ -621,6 +637,29 @@ public final class MarchTest {
         Check.is("6 minutes more", 12, x.penaltyAt(0, 0, 1));
         Check.is("by the order of paragraphs", 3, x.penaltyAt(0, 1, 0));
         Check.is("5 gaps", 5, x.penaltyAt(0, 1, 1));
+    }
+
+    private static void heldNoMoreInANewYear() {
+        Floatparade x = new Floatparade();
+        x.street(0, 11, 6, 30, 30, 99);
+        x.route(0, 11);
+        x.goOn(0, 0);
+        enters(x, 1);
+        x.begin(0, 1, 200);
+        Check.is("the first corner", 0, x.ambulance(11));
+        minute(x, 1, -1);
+        minute(x, 2, -1);
+        minute(x, 3, 2);
+        minute(x, 4, 5);
+        Check.is("the last corner", 1, x.ambulance(0));
+        Check.is("the first corner", 0, x.ambulance(11));
+        minute(x, 5, 8);
+        x.endYear();
+        x.enter(0, 0);
+        x.begin(0, 1, 200);
+        minute(x, 1, 2);
+        minute(x, 2, 5);
+        minute(x, 3, 8);
     }
 
     private static void newYear() {

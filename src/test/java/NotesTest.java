@@ -308,6 +308,16 @@ public final class NotesTest {
         x.note(3, 0, 2, 50);
         Check.is("59 61 50: the mean is 56", true, x.isDoubted(0, 0));
         Check.is("the doubted one counts all the same", 74 + 61 + 59 + 50 - 74 - 50, x.notes(0, 2));
+        for (int category = 0; category < 3; category++) {
+            x.note(2, 1, category, 90);
+            x.note(0, 1, category, 75);
+        }
+        Check.is("15 above the judge 0 alone", true, x.isDoubted(2, 1));
+        x.note(0, 1, 1, 76);
+        Check.is("14 above it in one", false, x.isDoubted(2, 1));
+        x.note(3, 1, 1, 73);
+        Check.is("15 above the mean of 76 and 73", false, x.isDoubted(3, 1));
+        Check.is("15 above the mean of 76 and 73", true, x.isDoubted(2, 1));
     }
 
     private static void doubtedWrong() {
@@ -494,11 +504,14 @@ public final class NotesTest {
         x.vote(0, 0, 9);
         x.round(0);
         x.song(2);
+        x.song(2);
+        x.vote(2, 0, 9);
         x.build(0, 1, 1, 1, 1);
         x.enter(0, 77);
         x.begin(0, 200, 200);
         x.march(0, 60);
         x.note(0, 0, 0, 50);
+        x.appeal(0, 0);
         x.penalty(0, 4, 1);
         Check.is("none comes up", -1, x.endYear());
         int[] due = {0, 1, 0, -1, 0, 0, 100, 0, 0};
@@ -518,6 +531,9 @@ public final class NotesTest {
         Check.is("songs, anew", 1, x.song(0));
         Check.is("votes, anew", 1, x.vote(0, 0, 1));
         Check.is("none is struck out", 1, x.round(0));
+        x.song(2);
+        x.song(2);
+        Check.is("votes, anew, where no round was ended", 1, x.vote(2, 0, 1));
         Check.is("feuds stay", true, x.feud(1, 0, true));
         Check.is("juries stay", true, x.jury(1, true));
         Check.state("streets stay", () -> x.street(1, 0, 1, 3, 2, 1));

@@ -5,6 +5,7 @@ public final class OrderTest {
         enterWrong();
         lots();
         boundPlaces();
+        firstAheadOfTheLotZero();
         boundAfterYearsWithout();
         feuds();
         feudsOfBoundOnes();
@@ -36,7 +37,10 @@ public final class OrderTest {
         Check.is("order, behind the last", -1, x.order(league, due.length));
     }
 
-    private static void run(Floatparade x, int league) {
+    private static void run(Floatparade x, int league, int... societies) {
+        for (int society : societies) {
+            x.enter(society, 0);
+        }
         x.begin(league, 1, 200);
         x.march(league, 60);
     }
@@ -72,6 +76,10 @@ public final class OrderTest {
         x.build(0, 1, 1, 1, 1);
         x.build(0, 1, 10, 1, 1);
         Check.state("the second float does not fit", () -> x.enter(0, 0));
+        x.build(1, 9, 1, 1, 1);
+        x.build(1, 1, 1, 1, 1);
+        Check.state("the first float does not fit", () -> x.enter(1, 0));
+        x.cut(1, 0, 8, 1, 1, 1);
         Check.is("not entered", 0, x.about(0, 7));
         x.cut(0, 1, 1, 9, 1, 1);
         Check.is("cut down, it does", 1, x.enter(0, 5));
@@ -117,11 +125,26 @@ public final class OrderTest {
         isOrder(x, 0, 4, 0);
         x.enter(2, 99);
         isOrder(x, 0, 2, 4, 0);
+        x.society(0, 1);
+        x.enter(6, 99);
+        isOrder(x, 0, 2, 4, 6, 0);
         x.enter(3, 99);
         x.enter(1, 99);
         isOrder(x, 1, 1, 3);
         x.enter(5, 98);
         isOrder(x, 1, 5, 1, 3);
+    }
+
+    private static void firstAheadOfTheLotZero() {
+        Floatparade x = with(0, 0, 0, 1);
+        run(x, 0, 2, 0);
+        x.penalty(0, 4, 1);
+        run(x, 1, 3);
+        Check.is("3 comes up, 0 goes down", 3, x.endYear());
+        x.enter(1, 0);
+        x.enter(3, 99);
+        x.enter(2, 0);
+        isOrder(x, 0, 3, 1, 2);
     }
 
     private static void boundAfterYearsWithout() {
