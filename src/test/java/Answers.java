@@ -150,12 +150,12 @@ final class Answers {
     }
 
     private void tellSongs(int society) {
-        boolean is = true;
-        for (int i = 0; i < 6 && is; i++) {
-            int song = i;
-            is = ask("vote " + society + " " + i, () -> x.vote(society, song, 1));
-        }
+        // a song more, so that the votes of one that was chosen as the only one can be told
         ask("song " + society, () -> x.song(society));
+        for (int i = 0; i < 6; i++) {
+            int song = i;
+            ask("vote " + society + " " + i, () -> x.vote(society, song, 1));
+        }
         ask("round " + society, () -> x.round(society));
     }
 
@@ -194,6 +194,7 @@ final class Answers {
             ask("change 0 1", () -> x.change(0, 1) ? 1 : 0);
             ask("order " + league, () -> x.order(league, 0));
             ask("begin " + league, () -> x.begin(league, 10, 20));
+            tellParts(league, 3);
             minutes(league, 3);
             ask("to the end of " + league, () -> x.march(league, 60));
         }
@@ -215,21 +216,25 @@ final class Answers {
         boolean goesOn = true;
         for (int i = 0; i < count && goesOn; i++) {
             goesOn = ask("march " + league, () -> x.march(league, 1));
-            tellFronts(league);
+            tellParts(league, 2);
         }
     }
 
-    private void tellFronts(int league) {
+    private void tellParts(int league, int what) {
         boolean is = true;
         for (int i = 0; i < MOST_PARTS && is; i++) {
             int part = i;
-            is = ask("front of " + part, () -> x.part(league, part, 2));
+            is = ask("part " + part + " " + what, () -> x.part(league, part, what));
         }
     }
 
     private void marchesAndYears() {
-        minutes(0, 3);
-        minutes(1, 3);
+        for (int i = 0; i < 2; i++) {
+            int league = i;
+            ask("begin " + league, () -> x.begin(league, 1, 200));
+            tellParts(league, 3);
+            minutes(league, 3);
+        }
         for (int i = 0; i < 2 * MOST_PARTS; i++) {
             int league = i / MOST_PARTS;
             int part = i % MOST_PARTS;

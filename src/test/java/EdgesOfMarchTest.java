@@ -703,6 +703,45 @@ public final class EdgesOfMarchTest {
         minute(z, 6, 12);
     }
 
+    /**
+     * Terms: "Corners are numbered from 0 to 11." "A jury may be at a corner." Each one can be held, and can have a jury,
+     * as the first one of a route and as the last one.
+     */
+    static void eachCorner() {
+        for (int corner = 0; corner < 12; corner++) {
+            int last = (corner + 5) % 12;
+            Floatparade held = withRoute(corner, last);
+            held.ambulance(corner);
+            minute(held, 1, -1);
+            minute(held, 2, -1);
+            minute(held, 3, 2);
+            held.march(0, 2);
+            held.ambulance(last);
+            minute(held, 6, 8);
+            minute(held, 7, 8);
+            minute(held, 8, 11);
+            Floatparade judged = withRoute(corner, last);
+            judged.jury(corner, true);
+            judged.jury(last, true);
+            minute(judged, 1, 0);
+            minute(judged, 2, 0);
+            judged.march(0, 2);
+            minute(judged, 5, 9);
+            minute(judged, 6, 9);
+            minute(judged, 7, 12);
+        }
+    }
+
+    private static Floatparade withRoute(int corner, int last) {
+        Floatparade x = new Floatparade();
+        x.street(corner, last, 10, 30, 30, 99);
+        x.route(0, corner);
+        x.goOn(0, last);
+        City.enters(x, 1);
+        x.begin(0, 1, 200);
+        return x;
+    }
+
     // ---- the terms: gaps
 
     /** A float with so many cells, and a wing of 1 cell that waits at the cell 0; the minute 3 is over, the float at 5. */

@@ -19,17 +19,18 @@ public final class EdgesOfNotesTest {
 
     /**
      * Gives the societies 0 and 1 the same points, the same notes in as many categories as told, from the first one on,
-     * in the next one 1 the greater note, and in all behind that 0.
+     * in the next one the better society the greater note, and in all behind that the other one.
      */
-    static void tie(Floatparade x, int first, int place) {
+    static void tie(Floatparade x, int first, int place, int better) {
+        int other = 1 - better;
         for (int i = 0; i < 5; i++) {
             int category = (first + i) % 5;
-            x.note(0, 0, category, i > place ? 61 : 60);
-            x.note(0, 1, category, i == place ? 61 : 60);
+            x.note(0, better, category, i == place ? 61 : 60);
+            x.note(0, other, category, i > place ? 61 : 60);
         }
-        x.penalty(1, 4, 1);
+        x.penalty(better, 4, 1);
         if (place < 4) {
-            x.penalty(0, 4, 4 - place);
+            x.penalty(other, 4, 4 - place);
         }
         Check.is("the same points", x.about(0, 5), x.about(1, 5));
     }
@@ -287,11 +288,13 @@ public final class EdgesOfNotesTest {
     static void tiesByEachDraw() {
         for (int first = 0; first < 5; first++) {
             for (int place = 0; place < 5; place++) {
-                Floatparade x = marched(2);
-                x.draw(first);
-                tie(x, first, place);
-                Check.is("drawn " + first + ", unlike at " + place, 1, x.table(0, 0));
-                Check.is("drawn " + first + ", unlike at " + place, 0, x.table(0, 1));
+                for (int better = 0; better < 2; better++) {
+                    Floatparade x = marched(2);
+                    x.draw(first);
+                    tie(x, first, place, better);
+                    Check.is("drawn " + first + ", unlike at " + place, better, x.table(0, 0));
+                    Check.is("drawn " + first + ", unlike at " + place, 1 - better, x.table(0, 1));
+                }
             }
         }
     }
@@ -433,9 +436,12 @@ public final class EdgesOfNotesTest {
             Check.index("floats", () -> x.fits(society, 0));
             Check.index("songs", () -> x.vote(society, 0, 1));
             Check.index("penalties", () -> x.penaltyAt(society, 0, 0));
-            Check.is("songs anew", 0, x.song(i));
-            Check.is("songs anew", 1, x.song(i));
-            Check.is("votes anew", 1, x.vote(i, 0, 1));
+            for (int song = 0; song < 6; song++) {
+                Check.is("songs anew", song, x.song(i));
+            }
+            for (int song = 0; song < 6; song++) {
+                Check.is("votes anew", 1, x.vote(i, song, 1));
+            }
             Check.is("floats anew", 0, x.build(i, 1, 1, 1, 1));
         }
         for (int league = 0; league < 2; league++) {
@@ -471,6 +477,65 @@ public final class EdgesOfNotesTest {
         Check.is("the first entry", 1, x.enter(2, 0));
         Check.is("and the second", 2, x.enter(1, 0));
         Check.is("by the new lot", 1, x.order(1, 0));
+    }
+
+    /** Terms: "notes, penalties and the march are gone then;" Notes and penalties of the next year are new ones. */
+    static void notesAndPenaltiesAnew() {
+        Floatparade x = withPenalties(20);
+        for (int i = 0; i < 20; i++) {
+            x.note(i % 4, 0, i / 4, 50 + i);
+            x.appeal(0, i);
+        }
+        x.endYear();
+        City.run(x, 0, 0);
+        Check.is("points", 0, x.about(0, 5));
+        for (int i = 0; i < 20; i++) {
+            Check.is("no note before", -1, x.note(i % 4, 0, i / 4, 60));
+            Check.is("how many", i + 1, x.penalty(0, 9, 1));
+            Check.is("not appealed away", 0, x.penaltyAt(0, i, 2));
+        }
+        Check.is("points", 5 * 120 - 20, x.about(0, 5));
+    }
+
+    /**
+     * Terms: "penalties and the march are gone then;" The next one has its own parts, minutes, gaps and held corners.
+     * Each corner was once held in the last minute of the year, as the first one of the route.
+     */
+    static void marchAnew() {
+        for (int corner = 0; corner < 12; corner++) {
+            Floatparade x = afterMarchWithAGap(corner);
+            x.ambulance(corner);
+            Check.is("the last minute", 11, x.march(0, 1));
+            Check.is("a penalty for the gap", 1, x.about(0, 8));
+            x.endYear();
+            x.enter(0, 0);
+            Check.is("a wing alone", 1, x.begin(0, 1, 200));
+            Check.index("a second part", () -> x.part(0, 1, 0));
+            Check.is("the first minute", 1, x.march(0, 1));
+            Check.is("the corner is not held", 2, x.part(0, 0, 2));
+            Check.is("to the end", 4, x.march(0, 60));
+            isAbout("no gap, no penalty", x, 0, 0, 1, 0, -1, 0, 0, 100, 1, 0);
+            Check.is("no gap", 0, x.clock(0, 2));
+        }
+    }
+
+    /** A minute ahead of the end of a march along one street, whose first corner is told. */
+    private static Floatparade afterMarchWithAGap(int corner) {
+        Floatparade x = new Floatparade();
+        x.street(corner, (corner + 1) % 12, 10, 30, 30, 99);
+        x.route(0, corner);
+        x.goOn(0, (corner + 1) % 12);
+        City.enters(x, 1, 2);
+        x.begin(0, 1, 200);
+        x.march(0, 1);
+        x.jury(corner, true);
+        x.march(0, 1);
+        x.jury(corner, false);
+        x.stop(0, 1, 5);
+        Check.is("the tenth minute", 10, x.march(0, 8));
+        Check.is("the wing is at the last cell", 9, x.part(0, 1, 2));
+        Check.is("a gap", 1, x.clock(0, 2));
+        return x;
     }
 
     /** Terms: "juries, streets, routes, feuds and money stay." */

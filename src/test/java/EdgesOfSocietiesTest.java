@@ -36,7 +36,7 @@ public final class EdgesOfSocietiesTest {
         for (int place = 0; place < 5; place++) {
             Floatparade x = City.ofLeagues(0, 0);
             City.run(x, 0, 0, 1);
-            EdgesOfNotesTest.tie(x, 0, place);
+            EdgesOfNotesTest.tie(x, 0, place, 1);
             Check.is("the first of the table, unlike in category " + place, 1, x.table(0, 0));
         }
     }
@@ -345,6 +345,16 @@ public final class EdgesOfSocietiesTest {
         Refused.state("1 is struck out, and 0 is chosen", EdgesOfSocietiesTest::chosen, x -> x.vote(1, 1, 1));
         Refused.state("0 is chosen", EdgesOfSocietiesTest::chosen, x -> x.vote(1, 0, 1));
         Refused.state("the only song is chosen", City::preparing, x -> x.vote(2, 0, 1));
+    }
+
+    /** Promise 6: "or one is chosen": the only song is so at once, until there is a second one. */
+    static void voteForTheOnlySong() {
+        Floatparade x = withSongs(1);
+        Check.state("chosen", () -> x.vote(4, 0, 5));
+        Check.is("a second one", 1, x.song(4));
+        Check.is("chosen no more, and without votes", 1, x.vote(4, 0, 1));
+        Check.is("struck out", 1, x.round(4));
+        Check.state("chosen again", () -> x.vote(4, 0, 1));
     }
 
     private static Floatparade chosen() {
