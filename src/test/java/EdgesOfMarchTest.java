@@ -102,7 +102,9 @@ public final class EdgesOfMarchTest {
         }
     }
 
-    /** Terms: "The line are the parts of the societies in their order:" The longest one: 10 societies, 3 floats each. */
+    /**
+     * Terms: "The line are the parts of the societies in their order:" The longest one: 10 societies, 3 floats each.
+     */
     static void longestLine() {
         Floatparade x = City.ofStreets(2);
         for (int i = 0; i < 10; i++) {
@@ -123,7 +125,10 @@ public final class EdgesOfMarchTest {
         Check.is("it comes to its end", 1, x.part(0, 59, 4));
     }
 
-    /** Terms: "a wing has as many cells as a tenth of the society's members, rounded down, and 1, together, but 9 at most," */
+    /**
+     * Terms: "a wing has as many cells as a tenth of the society's members, rounded down, and 1, together, but 9 at
+     * most,"
+     */
     static void cellsOfAWing() {
         int[] members = {1, 9, 10, 19, 20, 79, 80, 89, 90, 99, 100, 200};
         int[] due = {1, 1, 2, 2, 3, 8, 9, 9, 9, 9, 9, 9};
@@ -223,7 +228,10 @@ public final class EdgesOfMarchTest {
         Refused.state("no march, and it is out", City::judged, x -> x.stop(0, 0, 5));
     }
 
-    /** Promise 19: "Stops a part for some minutes." Terms: "none if it is stopped," "Then stops and held corners have a minute less to go." */
+    /**
+     * Promise 19: "Stops a part for some minutes." Terms: "none if it is stopped," "Then stops and held corners have a
+     * minute less to go."
+     */
     static void minutesThatAPartIsStopped() {
         for (int minutes : new int[] {1, 2, 20}) {
             Floatparade x = wingAt(5, 1);
@@ -254,7 +262,10 @@ public final class EdgesOfMarchTest {
         Check.is("it did not", false, x.rain(true));
     }
 
-    /** Terms: "In a minute each part that is not out, from the first one on, moves by as many cells as it can: 2, a wing 3, but 2 in rain;" */
+    /**
+     * Terms: "In a minute each part that is not out, from the first one on, moves by as many cells as it can: 2, a wing
+     * 3, but 2 in rain;"
+     */
     static void cellsOfAMinute() {
         for (int floats = 0; floats < 2; floats++) {
             Floatparade x = City.ofStreets(30);
@@ -319,7 +330,9 @@ public final class EdgesOfMarchTest {
         Check.is("both have ended", 0, x.ambulance(1));
     }
 
-    /** Promise 21: "how many parts have cells on it": the first of the line, or one behind it, or one ahead of the last. */
+    /**
+     * Promise 21: "how many parts have cells on it": the first of the line, or one behind it, or one ahead of the last.
+     */
     static void eachPartOnACorner() {
         for (int part = 0; part < 3; part++) {
             Floatparade x = City.ofStreets(3, 27);
@@ -577,7 +590,10 @@ public final class EdgesOfMarchTest {
         minute(x, 3, 8, 6, 4, 2);
     }
 
-    /** Terms: "if that is not out;" Out by then: in the very minute it binds no more, with its tail at the last cell it does. */
+    /**
+     * Terms: "if that is not out;" Out by then: in the very minute it binds no more, with its tail at the last cell it
+     * does.
+     */
     static void behindAPartThatIsOut() {
         Floatparade x = City.ofStreets(4);
         City.enters(x, 1, 1);
@@ -744,7 +760,9 @@ public final class EdgesOfMarchTest {
 
     // ---- the terms: gaps
 
-    /** A float with so many cells, and a wing of 1 cell that waits at the cell 0; the minute 3 is over, the float at 5. */
+    /**
+     * A float with so many cells, and a wing of 1 cell that waits at the cell 0; the minute 3 is over, the float at 5.
+     */
     private static Floatparade withWingAt0(int cells, int length) {
         Floatparade x = City.ofStreets(cells);
         City.enters(x, 1, length);
@@ -773,7 +791,9 @@ public final class EdgesOfMarchTest {
         Check.is("each minute anew", 2, y.clock(0, 2));
     }
 
-    /** Terms: "both with their fronts on the route (not behind its last cell)," The front ahead is at 9 when 7 are free. */
+    /**
+     * Terms: "both with their fronts on the route (not behind its last cell)," The front ahead is at 9 when 7 are free.
+     */
     static void gapAtTheEndOfTheRoute() {
         Floatparade at = withWingAt0(10, 2);
         minute(at, 4, 7, 0);
@@ -868,7 +888,9 @@ public final class EdgesOfMarchTest {
         }
     }
 
-    /** Terms: "3 for gaps, 1 each." One gap is something; behind the paragraph 1, or 2. Ahead of the end there is none. */
+    /**
+     * Terms: "3 for gaps, 1 each." One gap is something; behind the paragraph 1, or 2. Ahead of the end there is none.
+     */
     static void penaltiesByGaps() {
         int[][] limits = {{1, 200}, {40, 200}, {1, 10}};
         for (int i = 0; i < limits.length; i++) {
@@ -942,7 +964,9 @@ public final class EdgesOfMarchTest {
         }
     }
 
-    /** Promise 23: "Throws IllegalStateException if its march has not begun": behind the argument, ahead of the index. */
+    /**
+     * Promise 23: "Throws IllegalStateException if its march has not begun": behind the argument, ahead of the index.
+     */
     static void partWithoutAMarch() {
         Refused.state("no society", City::empty, x -> x.part(0, 0, 0));
         Refused.state("it has not begun", City::entered, x -> x.part(0, 0, 0));

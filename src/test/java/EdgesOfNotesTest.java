@@ -1,6 +1,9 @@
 import java.util.function.Supplier;
 
-/** Promises 25 to 34, and what the terms say of notes, tables and the end of a year: the edges, sentence by sentence. */
+    /**
+     * Promises 25 to 34, and what the terms say of notes, tables and the end of a year: the edges, sentence by
+     * sentence.
+     */
 public final class EdgesOfNotesTest {
     public static void main(String[] args) throws IllegalAccessException {
         Check.all(EdgesOfNotesTest.class);
@@ -417,7 +420,9 @@ public final class EdgesOfNotesTest {
         return x;
     }
 
-    /** Terms: "Themes, songs, floats, entries, lots, notes, penalties and the march are gone then;" Of all societies. */
+    /**
+     * Terms: "Themes, songs, floats, entries, lots, notes, penalties and the march are gone then;" Of all societies.
+     */
     static void whatIsGone() {
         Floatparade x = afterAYear();
         for (int i = 0; i < 5; i++) {
@@ -664,7 +669,9 @@ public final class EdgesOfNotesTest {
         }
     }
 
-    /** Terms: "Its points: all categories, less its penalties that were not appealed away." The greatest and the least. */
+    /**
+     * Terms: "Its points: all categories, less its penalties that were not appealed away." The greatest and the least.
+     */
     static void pointsOfAll() {
         Floatparade x = marched(1);
         Check.is("none", 0, x.about(0, 5));

@@ -124,7 +124,10 @@ public final class EdgesOfOrderTest {
 
     // ---- the terms: the order
 
-    /** Terms: "the others are between these by their lots, numbers told, rising, of the same by their numbers; without one 0." */
+    /**
+     * Terms: "the others are between these by their lots, numbers told, rising, of the same by their numbers; without
+     * one 0."
+     */
     static void byLots() {
         Floatparade x = City.ofLeagues(0, 0, 0, 0, 0);
         x.enter(4, 0);
@@ -374,7 +377,9 @@ public final class EdgesOfOrderTest {
         Check.is("the march of the other league has begun", true, x.change(0, 1));
     }
 
-    /** Promise 16: "Lets two societies change places, afterwards." "Returns whether they do." The first and the last. */
+    /**
+     * Promise 16: "Lets two societies change places, afterwards." "Returns whether they do." The first and the last.
+     */
     static void changeOfTheEnds() {
         Floatparade x = tenEntered();
         Check.is("the first and the last", true, x.change(0, 9));

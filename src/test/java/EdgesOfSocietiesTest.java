@@ -21,7 +21,9 @@ public final class EdgesOfSocietiesTest {
         Refused.state("no year to end", City::empty, Floatparade::endYear);
     }
 
-    /** Promise 1: "least 1 and most 200 minutes;" So a march of 1 minute is not too short, and one of 200 not too long. */
+    /**
+     * Promise 1: "least 1 and most 200 minutes;" So a march of 1 minute is not too short, and one of 200 not too long.
+     */
     static void leastAndMostOfANewObject() {
         for (int minutes : new int[] {1, 200}) {
             Floatparade x = City.afterMarchOf(minutes, 1, 200);

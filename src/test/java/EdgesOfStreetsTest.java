@@ -17,7 +17,10 @@ public final class EdgesOfStreetsTest {
         Check.is("the first and the last", 1, City.empty().street(0, 11, 4, 5, 6, 7));
     }
 
-    /** Promise 8: "Throws IllegalArgumentException if both are the same," Terms: "A street is between two unlike corners," */
+    /**
+     * Promise 8: "Throws IllegalArgumentException if both are the same," Terms: "A street is between two unlike
+     * corners,"
+     */
     static void streetToItself() {
         Refused.argument("0 and 0", City::preparing, x -> x.street(0, 0, 4, 5, 6, 7));
         Refused.argument("11 and 11", City::preparing, x -> x.street(11, 11, 4, 5, 6, 7));
@@ -98,7 +101,10 @@ public final class EdgesOfStreetsTest {
         }
     }
 
-    /** Promise 8: "Throws IllegalStateException if there are 16," Terms: "at most 16, with a length, a width, a height of its wires and a load." */
+    /**
+     * Promise 8: "Throws IllegalStateException if there are 16," Terms: "at most 16, with a length, a width, a height
+     * of its wires and a load."
+     */
     static void streetsAreFull() {
         Refused.state("a seventeenth", () -> withStreets(16), x -> x.street(11, 10, 4, 5, 6, 7));
         Check.is("the sixteenth", 16, withStreets(15).street(11, 10, 4, 5, 6, 7));
@@ -145,7 +151,9 @@ public final class EdgesOfStreetsTest {
         Refused.argument("no league, entered", City::entered, x -> x.route(-1, 0));
     }
 
-    /** Promise 9: "Begins the route of a league anew with a corner." From none, from one of 10, of this league alone. */
+    /**
+     * Promise 9: "Begins the route of a league anew with a corner." From none, from one of 10, of this league alone.
+     */
     static void routeAnew() {
         Floatparade x = City.ofStreets(1, 1, 1, 1, 1, 1, 1, 1, 1);
         Check.state("10 corners", () -> x.goOn(0, 10));
