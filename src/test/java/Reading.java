@@ -9,8 +9,8 @@ import java.util.Set;
 import java.util.TreeMap;
 
 /**
- * The document read a second time, sentence by sentence, apart from the class and in other ways (lists, sorting, steps
- * of one cell), with no thought of speed: ReadingTest compares the two.
+ * The document read a second time, sentence by sentence, in other ways than the class (lists, sorting, steps of one
+ * cell), with no thought of speed: ReadingTest compares the two.
  */
 final class Reading {
     private static final int NONE = -1;
